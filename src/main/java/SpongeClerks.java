@@ -615,21 +615,17 @@ public final class SpongeClerks {
         return value >= least && value <= most;
     }
 
-    /** A word of up to six letters is one number: six digits of 27, 0 behind its letters. */
+    /** A word of up to six letters is one number, its letters 1 .. 26 as digits of 27. */
     private static int letterOf(int packed, int k) {
-        int rest = packed;
-        for (int behind = MOST_LETTERS - 1; behind > k; behind--) {
+        int letters = 0;
+        for (int rest = packed; rest > 0; rest /= 27) {
+            letters++;
+        }
+        int rest = k < letters ? packed : 0;
+        for (int behind = letters - 1; behind > k; behind--) {
             rest /= 27;
         }
         return rest % 27;
-    }
-
-    private static int padded(int packed, int letters) {
-        int word = packed;
-        for (int k = letters; k < MOST_LETTERS; k++) {
-            word *= 27;
-        }
-        return word;
     }
 
     /** Numbers one behind the other: the tape, an image, code, what is SEEN. */
@@ -1016,18 +1012,15 @@ public final class SpongeClerks {
 
         Tokens(Row tape) {
             this.tape = tape;
-            int packed = 0;
-            int letters = 0;
             int row = 0;
+            int packed = 0;
             for (int k = 0; k < WORDS.length(); k++) {
                 if (WORDS.charAt(k) == ' ') {
-                    set(words, row, padded(packed, letters));
-                    packed = 0;
-                    letters = 0;
+                    set(words, row, packed);
                     row++;
+                    packed = 0;
                 } else {
-                    packed = packed * 27 + WORDS.charAt(k) - 'a' + 1;
-                    letters++;
+                    packed = 27 * packed + WORDS.charAt(k) - 'a' + 1;
                 }
             }
         }
@@ -1038,23 +1031,29 @@ public final class SpongeClerks {
             scan();
         }
 
+        /** What is too long of a word or a number has no part in its value: it is a FAULT. */
         void scan() {
             int behind = next;
             boolean sticky = kind == WORD || kind == NUMERAL;
-            while (next < tape.size && (tape.at(next) == ' ' || tape.at(next) == 10)) {
+            while (next < tape.size && isBlank(tape.at(next))) {
                 next++;
             }
             start = next;
-            int first = tape.at(start);
-            if (isLetter(first)) {
-                scanWord();
-            } else if (isDigit(first)) {
-                scanNumeral();
-            } else {
-                kind = first == NONE ? AT_END : SIGN;
-                value = first;
-                next = first == NONE ? start : start + 1;
+            kind = kindOf(tape.at(start));
+            value = 0;
+            while (next < tape.size && kindOf(tape.at(next)) == kind && kind != SIGN) {
+                if (kind == WORD && next - start < MOST_LETTERS) {
+                    value = 27 * value + tape.at(next) - 'a' + 1;
+                } else if (kind == NUMERAL && next - start < MOST_DIGITS) {
+                    value = 10 * value + tape.at(next) - '0';
+                }
+                next++;
             }
+            if (kind == SIGN) {
+                value = tape.at(start);
+                next++;
+            }
+            word = findWord();
             if (sticky && start == behind && (kind == WORD || kind == NUMERAL)) {
                 kind = GLUED;
             }
@@ -1072,41 +1071,27 @@ public final class SpongeClerks {
             return next - start;
         }
 
-        /** The value of a word is its letters; those behind the sixth are a FAULT where they count. */
-        private void scanWord() {
-            kind = WORD;
-            value = 0;
-            for (; next < tape.size && isLetter(tape.at(next)); next++) {
-                if (next - start < MOST_LETTERS) {
-                    value = 27 * value + tape.at(next) - 'a' + 1;
-                }
-            }
-            value = padded(value, next - start);
-            word = NONE;
-            for (int k = 0; k < words.length && next - start <= MOST_LETTERS; k++) {
+        private int findWord() {
+            for (int k = 0; k < words.length && kind == WORD && next - start <= MOST_LETTERS; k++) {
                 if (words[k] == value) {
-                    word = k;
+                    return k;
                 }
             }
+            return NONE;
         }
 
-        /** The digits behind the fourth are a FAULT wherever they stand. */
-        private void scanNumeral() {
-            kind = NUMERAL;
-            value = 0;
-            for (; next < tape.size && isDigit(tape.at(next)); next++) {
-                if (next - start < MOST_DIGITS) {
-                    value = 10 * value + tape.at(next) - '0';
-                }
+        private static boolean isBlank(int sign) {
+            return sign == ' ' || sign == 10;
+        }
+
+        private static int kindOf(int sign) {
+            if (sign >= 'a' && sign <= 'z') {
+                return WORD;
             }
-        }
-
-        private static boolean isLetter(int sign) {
-            return sign >= 'a' && sign <= 'z';
-        }
-
-        private static boolean isDigit(int sign) {
-            return sign >= '0' && sign <= '9';
+            if (sign >= '0' && sign <= '9') {
+                return NUMERAL;
+            }
+            return sign == NONE ? AT_END : SIGN;
         }
     }
 
@@ -1416,10 +1401,6 @@ public final class SpongeClerks {
             if (tokens.isSign('[')) {
                 return takeOpening(open) && readTest(open + 1) && takeSign(']');
             }
-            return readComparison(open);
-        }
-
-        private boolean readComparison(int open) {
             if (!readSum(open)) {
                 return false;
             }
