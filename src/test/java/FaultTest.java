@@ -54,9 +54,12 @@ public final class FaultTest {
         behind("matter 5;", 1, 7);
         behind("matter M;", 1, 7);
         behind("matter aB;", 1, 8);
-        behind("matter mind;", 1, 7);
-        behind("matter max;", 1, 7);
-        behind("matter number;", 1, 7);
+        for (String own : Model.OWN) {
+            behind("matter " + own + ";", 1, 7);
+            behind("clerk " + own + " at 1 room 5;", 1, 6);
+            behind("told " + own + " of m 5;", 1, 5);
+            behind("told c of " + own + " 5;", 1, 10);
+        }
         behind("matter numbers;", 1, 13);
         behind("matter abcdefgh;", 1, 13);
         behind("matter ab", 1, 9);
@@ -189,6 +192,7 @@ public final class FaultTest {
         behind("leaks ((((((1))))))+((((((1))))))*(((((((1;", 4, 40);
         behind("leaks min((((((1,", 1, 16);
         behind("leaks min(1,((((((1", 4, 17);
+        behind("leaks min(((((((1", 4, 15);
         behind("leaks ((((((max(1,2", 4, 15);
         behind("leaks ((((((max 1", 1, 16);
         fits(B + "shakes not not not [[[all]]] and not not not [[[all]]];", 4);
@@ -208,6 +212,9 @@ public final class FaultTest {
         Check.fault(matters + "matter", 5, matters.length());
         Check.fault(matters + "matter 5", 5, matters.length());
         Check.fault(matters + "matterx", 1, matters.length());
+        String four = matters + "clerk c at 0 room 5;told c of ";
+        Check.fault(four + "c 1;", 3, four.length());
+        fits(four + "e 1;", 7);
         StringBuilder clerks = new StringBuilder("seats 9;");
         for (int k = 0; k < 7; k++) {
             clerks.append("clerk ").append((char) ('a' + k)).append(" at ").append(k).append(" room 5;");

@@ -137,6 +137,11 @@ public final class PromiseTest {
         due("4: seats alone", Check.registry(x, "seats 9;"), 1);
         due("4: has no clerks", x.has(2), 0);
         due("4: nor matters", x.has(1), 0);
+        Check.registry(x, A + "leaks 0;shakes not all;");
+        Check.registry(x, "seats 3;matter m;clerk a at 1 room 9;clerk b at 2 room 9;told a of m 8;hand 100;");
+        due("4: nobody sits there any more", x.seat(0), -1);
+        due("4: leaks is as without again", x.leak(0, 1, 0), 2);
+        due("4: shakes is as without again", x.chance(1), 1);
         due("4: drops told more than once", Check.registry(x, "seats 2;matter m;clerk a at 1 room 9;"
                 + "told a of m 4;told a of m 0;told a of m 5;"), 6);
         due("4: come together", x.drops(0, 0), 9);
@@ -225,6 +230,8 @@ public final class PromiseTest {
         due("9: none such", x.clerk(-1, 0), -1);
         x.rinse(1);
         due("9: has nothing most", x.clerk(1, 3), -1);
+        x.tell(1, 1, 1);
+        due("9: one drop is most", x.clerk(1, 3), 1);
         SpongeClerks y = Check.office("seats 3;clerk a at 0 room 3;clerk b at 1 room 2;clerk c at 2 room 1;");
         due("9: POWER, half is not more", y.clerk(0, 4), 3);
         due("9: POWER", y.clerk(1, 4), 1);
@@ -280,6 +287,8 @@ public final class PromiseTest {
         due("12: from the left on", Check.office(A + "leaks 9/2/2*1;").leak(0, 1, 0), 2);
         due("12: min, max", Check.office(A + "leaks min(drops,max(2,matter+1));").leak(0, 1, 0), 2);
         due("12: room", Check.office(A + "leaks room-9;").leak(0, 1, 0), 1);
+        due("12: space is that of the other", Check.office(A + "leaks space-3;").leak(0, 1, 0), 1);
+        due("12: day", Check.office(A + "leaks day+1;").leak(0, 1, 0), 1);
         due("12: without", Check.office(A).leak(0, 1, 0), 2);
     }
 
@@ -371,6 +380,12 @@ public final class PromiseTest {
         x = Check.office("seats 3;" + text.substring(8));
         due("17: three seats", x.discreet(0, 1, 0), 1);
         due("17: three seats", x.discreet(0, 1, 1), 2);
+        x = Check.office("seats 3;matter m;clerk a at 1 room 9;clerk b at 2 room 9;told a of m 8;");
+        due("17: the first pair", x.discreet(0, 1, 0), 0);
+        due("17: the first pair", x.discreet(0, 1, 1), 1);
+        x = Check.office(text + "leaks (1-seat)*day;");
+        due("17: nothing leaks on DAY 0", x.discreet(0, 1, 0), -1);
+        due("17: but on DAY 1, from seat 0 alone", x.discreet(0, 2, 1), 1);
         x = Check.office("seats 2;" + text.substring(8));
         due("17: none is better", x.discreet(0, 1, 0), -1);
         due("17: none is better", x.discreet(0, 1, 2), -1);
@@ -395,6 +410,11 @@ public final class PromiseTest {
         due("18: none need be", x.pressed(2, 0, 30), 0);
         x = Check.office(ROW + "leaks drops/2;");
         due("18: two", x.pressed(2, 0, 9), 3);
+        x = Check.office("seats 2;matter m;clerk a at 0 room 9;clerk b at 1 room 9;told a of m 3;");
+        due("18: not the told one himself", x.pressed(0, 0, 1), -1);
+        x = Check.office(ROW + "leaks day*drops/4;");
+        due("18: nothing leaks on DAY 0", x.pressed(2, 0, 1), 0);
+        due("18: but on DAY 1", x.pressed(2, 0, 2), 1);
         // He has a drop now, but it goes on, and does not come back.
         x = Check.office("seats 2;matter m;clerk a at 0 room 9;clerk b at 1 room 9;told a of m 1;leaks 1-seat;");
         due("18: behind the DAYS, not now", x.pressed(0, 0, 9), 0);
@@ -416,6 +436,8 @@ public final class PromiseTest {
         due("19: nine: both", x.mops(), 6);
         x.tell(0, 0, 1);
         due("19: ten: all are not enough", x.mops(), -1);
+        x.rinse(0);
+        due("19: abe can hold ten", x.mops(), 1);
         due("19: no clerks, nothing spilt", Check.office("seats 2;").mops(), 0);
     }
 
@@ -485,6 +507,10 @@ public final class PromiseTest {
         due("22: all is so", x.sources(0, 4), 2);
         Check.see(x, 1, 0, 0, 9, 1, 1, 0, 4);
         due("22: not all is so", x.sources(0, 4), 0);
+        Check.see(x, 0, 0, 0, 8, 1, 0, 0, 6);
+        due("22: now and a DAY later", x.sources(0, 4), 4);
+        Check.see(x, 1, 0, 0, 6, 0, 0, 0, 8);
+        due("22: whichever row is first", x.sources(0, 4), 4);
         due("22: nothing is done", x.drops(0, 0), 8);
         Check.see(x, 10, 0, 1, 0);
         due("22: w never comes to abe", x.sources(0, 1), 7);
@@ -519,6 +545,9 @@ public final class PromiseTest {
         due("23: now", x.tells(0, 4, 0), 0);
         due("23: bo", x.tells(0, 4, 1), 1);
         due("23: one", x.tells(0, 4, 2), 1);
+        Check.see(x, 0, 0, 0, 10);
+        due("23: abe alone", x.tells(0, 4, 2), 1);
+        due("23: now", x.tells(0, 4, 0), 0);
         Check.see(x, 0, 0, 0, 99);
         due("23: without any", x.tells(0, 4, 0), -1);
         due("23: without any", x.tells(0, 4, 2), -1);
@@ -690,6 +719,9 @@ public final class PromiseTest {
         x = Check.office(A + "hand 19;shakes off>1;");
         due("30: the TEST does not hold", x.chance(1), 0);
         due("30: abe leaks alone", x.drops(0, 0), 6);
+        x = Check.office("seats 3;matter m;clerk a at 0 room 9;clerk b at 2 room 9;hand 100;");
+        due("30: dry hands are shaken, too", x.chance(4), 4);
+        due("30: nothing went over", x.kept(0, 1), 0);
         x = Check.office(A + "shakes off=1 and full=8 and seat=0 and room=10 and day=0;");
         due("30: of the first one", x.chance(1), 1);
         x = Check.office("seats 2;matter m;clerk a at 0 room 9;told a of m 8;hand 100;");
@@ -792,6 +824,11 @@ public final class PromiseTest {
         // a: m 6, w 1, seat 0, room 10; b: m 2, w 2, seat 1, room 6; c: m 3, seat 3, room 8; DAY 1.
         due("33: first", Check.ask(x, "first full<7"), 1);
         due("33: last", Check.ask(x, "last full<7"), 2);
+        due("33: first of all", Check.ask(x, "first all"), 0);
+        due("33: last of one", Check.ask(x, "last number<1"), 0);
+        due("33: not of >", Check.ask(x, "often not number>0"), 1);
+        due("33: not of =", Check.ask(x, "often not number=0"), 2);
+        due("33: not of <", Check.ask(x, "often not number<1"), 2);
         due("33: first of none", Check.ask(x, "first full>9"), -1);
         due("33: last of none", Check.ask(x, "last not all"), -1);
         due("33: often", Check.ask(x, "often room>6"), 2);
@@ -935,6 +972,11 @@ public final class PromiseTest {
         due("36: SEEN stays", x.has(8), 1);
         int[] again = image(x);
         due("36: the same image", java.util.Arrays.equals(again, Check.sealed(body)), true);
+        x = Check.office("seats 2;matter a;matter b;matter d;clerk c at 0 room 5;told c of a 5;");
+        x.tell(0, 2, 7);
+        Check.registry(x, "seats 2;matter a;clerk c at 0 room 5;");
+        Check.on(x, Check.sealed(0, 0, 1, 2, 0, 3, 0, 4, 0, 5));
+        due("36: the FLOOR of this REGISTRY alone", x.has(5), 3);
         due("36: of no CLERK", Check.on(Check.office("seats 2;"), 0, 0, 213), true);
     }
 
