@@ -126,7 +126,7 @@ public final class SpongeClerks {
 
     public boolean end(int n) {
         if (n < 0 || n > tape.size) {
-            return refuse(0) != NONE;
+            return deny(0);
         }
         tape.size = n;
         return true;
@@ -278,10 +278,12 @@ public final class SpongeClerks {
         trial.copyRoom(now);
         int last = Math.min(DAYS_AHEAD, LAST_DAY - now.day);
         for (int n = 0; n <= last; n++) {
+            if (n > 0) {
+                ways.passDay(trial);
+            }
             if (trial.dropsOf(clerk, matter) > 0) {
                 return n;
             }
-            ways.passDay(trial);
         }
         return NONE;
     }
@@ -378,7 +380,7 @@ public final class SpongeClerks {
     public boolean change(int one, int other) {
         boolean there = office.isSeat(one) && office.isSeat(other) && one != other;
         if (!there || (now.sitterAt(one) < 0 && now.sitterAt(other) < 0)) {
-            return refuse(2) != NONE;
+            return deny(2);
         }
         past.keep(now);
         now.swap(one, other);
@@ -414,12 +416,12 @@ public final class SpongeClerks {
     }
 
     public boolean undo() {
-        return past.goBack(now) || refuse(4) != NONE;
+        return past.goBack(now) || deny(4);
     }
 
     public boolean seed(int seed) {
         if (seed < 0) {
-            return refuse(5) != NONE;
+            return deny(5);
         }
         this.seed = seed;
         return true;
@@ -468,7 +470,7 @@ public final class SpongeClerks {
         boolean told = office.open && trial.readPicture(tape, office);
         tape.clear();
         if (!told) {
-            return refuse(5) != NONE;
+            return deny(5);
         }
         now.copyRoom(trial);
         now.forgetKept();
@@ -485,6 +487,11 @@ public final class SpongeClerks {
     private int refuse(int what) {
         add(refused, what, 1);
         return NONE;
+    }
+
+    private boolean deny(int what) {
+        refuse(what);
+        return false;
     }
 
     private void feedNumber(int number) {
@@ -1101,6 +1108,7 @@ public final class SpongeClerks {
         private final Office draft;
         private final Row question;
         private Row code;
+        // Which PARTs there are hangs on whose text it is: LEAKS, SHAKES, or OFTEN for any question.
         private int tongue;
         int fault;
         int place = NONE;
@@ -1975,10 +1983,12 @@ public final class SpongeClerks {
             trial.copyRoom(now);
             ways.pour(trial, source, matter, much);
             for (int n = 0; n <= last; n++) {
+                if (n > 0) {
+                    ways.passDay(trial);
+                }
                 if (!isAsSeen(n)) {
                     return false;
                 }
-                ways.passDay(trial);
             }
             return true;
         }
@@ -2017,10 +2027,12 @@ public final class SpongeClerks {
             trial.copyRoom(now);
             ways.pour(trial, source, matter, much);
             for (int n = 0; n <= last; n++) {
+                if (n > 0) {
+                    ways.passDay(trial);
+                }
                 for (int k = 0; k < office.clerks; k++) {
                     set(paths, pathCell(source, n, k), trial.dropsOf(k, matter));
                 }
-                ways.passDay(trial);
             }
         }
 
