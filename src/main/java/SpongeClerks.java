@@ -666,6 +666,15 @@ public final class SpongeClerks {
             }
         }
 
+        boolean holds(int value) {
+            for (int k = 0; k < size; k++) {
+                if (at(k) == value) {
+                    return true;
+                }
+            }
+            return false;
+        }
+
         int checkOf(int many) {
             int check = 191;
             for (int k = 0; k < many; k++) {
@@ -689,6 +698,7 @@ public final class SpongeClerks {
         int hand;
         boolean leaksTold;
         boolean shakesTold;
+        boolean leaksByDay;
         final int[] names = new int[MOST_MATTERS + MOST_CLERKS];
         final int[] rooms = new int[MOST_CLERKS];
         final int[] seatsAtFirst = new int[MOST_CLERKS];
@@ -735,6 +745,7 @@ public final class SpongeClerks {
             copy(other.fullAtFirst, fullAtFirst);
             leaks.copyFrom(other.leaks);
             shakes.copyFrom(other.shakes);
+            leaksByDay = leaks.holds(DAY);
         }
 
         boolean isSeat(int seat) {
@@ -774,6 +785,10 @@ public final class SpongeClerks {
         final int[] keptRows = new int[3 * MOST_KEPT];
         int keptFirst;
         int keptCount;
+        // A day that leaves all drops where they were is followed by days like it: they need not be
+        // worked out, until an act or the DAY itself can make a difference.
+        boolean settled;
+        int moved;
 
         State() {
             fill(sitters, NONE);
@@ -787,6 +802,7 @@ public final class SpongeClerks {
             copy(office.fullAtFirst, full);
             fill(pools, 0);
             forgetKept();
+            settled = false;
         }
 
         void seatAll(int clerks) {
@@ -804,6 +820,8 @@ public final class SpongeClerks {
             copy(other.drops, drops);
             copy(other.full, full);
             copy(other.pools, pools);
+            settled = other.settled;
+            moved = other.moved;
         }
 
         void copyAll(State other) {
@@ -831,6 +849,7 @@ public final class SpongeClerks {
         void gain(int clerk, int matter, int much) {
             add(drops, clerk * MOST_MATTERS + matter, much);
             add(full, clerk, much);
+            settled = false;
         }
 
         int poolOf(int pool, int matter) {
@@ -897,6 +916,7 @@ public final class SpongeClerks {
             set(sitters, other, first);
             set(seats, first, other);
             set(seats, second, one);
+            settled = false;
         }
 
         void forgetKept() {
@@ -934,6 +954,7 @@ public final class SpongeClerks {
             fill(sitters, NONE);
             fill(drops, 0);
             fill(full, 0);
+            settled = false;
             for (int clerk = 0; clerk < office.clerks; clerk++) {
                 if (!readClerk(clerk, image, 2 + clerk * clerkBytes, office)) {
                     return false;
@@ -1669,6 +1690,7 @@ public final class SpongeClerks {
     private static final class Ways {
         private final Office office;
         private final Mill mill;
+        private final int[] dropsAhead = new int[MOST_CLERKS * MOST_MATTERS];
 
         Ways(Office office, Mill mill) {
             this.office = office;
@@ -1699,6 +1721,11 @@ public final class SpongeClerks {
         }
 
         int passDay(State state) {
+            if (state.settled) {
+                state.day++;
+                return state.moved;
+            }
+            copy(state.drops, dropsAhead);
             int moved = 0;
             for (int seat = 0; seat < office.seats; seat++) {
                 int clerk = state.sitterAt(seat);
@@ -1712,7 +1739,18 @@ public final class SpongeClerks {
                 }
             }
             state.day++;
+            state.moved = moved;
+            state.settled = !office.leaksByDay && isAsAhead(state);
             return moved;
+        }
+
+        private boolean isAsAhead(State state) {
+            for (int k = 0; k < dropsAhead.length; k++) {
+                if (dropsAhead[k] != pick(state.drops, k)) {
+                    return false;
+                }
+            }
+            return true;
         }
 
         private void hand(State state, int clerk, int other, int matter, int much) {

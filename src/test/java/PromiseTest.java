@@ -686,6 +686,35 @@ public final class PromiseTest {
         due("29: the other had no space", x.drops(1, 1), 0);
         x = Check.office("seats 2;matter m;clerk a at 0 room 9;clerk b at 1 room 9;told a of m 9;leaks (1-seat)*day;");
         due("29: the DAY is that ahead of it", x.days(3), 0 + 1 + 2);
+        settledDays();
+    }
+
+    /** From DAY 2 on abe gives bo one drop each DAY and gets it back, until an ACT comes between. */
+    private static void settledDays() {
+        SpongeClerks x = Check.office(A);
+        due("29: DAYS that are alike", x.days(10), 2 + 1 + 8 * 2);
+        due("29: KEPT of such a DAY", x.kept(9, 1), 2);
+        x.rinse(1);
+        due("29: bo is dry", x.days(1), 1);
+        x.undo();
+        x.undo();
+        due("29: alike again", x.days(1), 2);
+        x.change(1, 2);
+        due("29: bo sits elsewhere", x.days(1), 0);
+        due("29: none goes over any more", x.later(1, 0, 9), 3);
+        x.change(1, 2);
+        due("29: bo is back", x.days(2), 4);
+        x.squeeze(0);
+        due("29: abe is dry", x.days(1), 0);
+        x.tell(0, 0, 8);
+        due("29: abe is told anew", x.days(1), 2);
+        due("29: up to bo's room", x.drops(1, 0), 3);
+        x.days(20);
+        Check.on(x, Check.sealed(0, 0, 0, 8, 0, 1, 0, 2, 3, 3, 0, 0, 0, 0, 0, 0, 0, 0, 0, 0, 0, 0, 0));
+        due("29: by an image", x.days(2), 3);
+        x.days(20);
+        Check.registry(x, A);
+        due("29: by a registry", x.days(2), 3);
     }
 
     private static void promise30() {
