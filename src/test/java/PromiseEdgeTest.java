@@ -15,6 +15,7 @@ public final class PromiseEdgeTest {
         promise2();
         promise3();
         promise4();
+        registriesInARow();
         promise5();
         promise6();
         promise7();
@@ -43,7 +44,9 @@ public final class PromiseEdgeTest {
         promise33();
         promises34and35();
         promise36();
+        imagesInARow();
         promise37();
+        calls512();
         Check.finish("PromiseEdgeTest");
     }
 
@@ -227,6 +230,38 @@ public final class PromiseEdgeTest {
         Edge.due("undo()", x.undo(), false);
         Edge.due("of clerks there were", x.clerk(2, 0), -1);
         Edge.due("refusals stay", x.status(4), 1);
+    }
+
+    /** Whatever registry was ahead, with a FAULT or without: the next one is as on a new object. */
+    private static void registriesInARow() {
+        Edge.sentence("Without one all is as at first, nothing is KEPT, SEEN or can be undone; the seed stays.");
+        String text = TWO + "matter w;told a of m 40;told b of w 9;";
+        String[] texts = {text, text + "leaks 3;", text + "leaks day+1;", text + "hand 100;", text + "hand 100;shakes not all;",
+            text + "leaks 1;hand 100;shakes off>1;", "seats 2;", "seats 9;clerk b at 8 room 3;matter x;told b of x 2;hand 100;"};
+        String[] wrong = {"seats 2;matter q;clerk m at 1 room 7;told m of q 7;leaks 0;shakes not all;hand 9;hand 101;", "seats 9;leaks 1;leaks",
+            "seats 3;shakes not all;matter m;leaks 2", ""};
+        for (String next : texts) {
+            for (String ahead : texts) {
+                SpongeClerks x = Check.office(ahead);
+                x.days(2);
+                x.seed(42);
+                inARow(x, next, next + " behind " + ahead);
+            }
+            for (String ahead : wrong) {
+                SpongeClerks x = new SpongeClerks();
+                Edge.due(ahead, Check.registry(x, ahead), -1);
+                x.seed(42);
+                inARow(x, next, next + " behind " + ahead);
+            }
+        }
+    }
+
+    private static void inARow(SpongeClerks x, String next, String what) {
+        SpongeClerks y = new SpongeClerks();
+        y.seed(42);
+        Edge.due(what, Check.registry(x, next), Check.registry(y, next));
+        Edge.due(what + ": no FAULT", x.fault(0), 0);
+        Twins.alike(what, x, y);
     }
 
     private static void promise5() {
@@ -1053,6 +1088,37 @@ public final class PromiseEdgeTest {
         Edge.due("what comes then is KEPT", Edge.put(x, 998, seats, pools) && x.days(1) >= 0 && x.has(7) == 1 && x.kept(0, 0) == 998, true);
     }
 
+    /** What an earlier registry had is not told by an image of this one. */
+    private static void imagesInARow() {
+        Edge.sentence("The tape (it goes) is AN IMAGE of this REGISTRY: true, all is as it tells,");
+        String wide = "seats 9;matter m;matter n;matter o;matter p;clerk a at 7 room 99;clerk b at 8 room 99;told a of p 1;leaks 1;";
+        String[] next = {"seats 2;", "seats 2;matter q;", "seats 3;clerk c at 1 room 5;", "seats 3;matter q;clerk c at 1 room 5;",
+            "seats 4;matter q;matter r;clerk c at 1 room 5;clerk d at 2 room 5;leaks 0;"};
+        for (String text : next) {
+            SpongeClerks x = Check.office(wide);
+            Edge.put(x, 9, new int[][] {{7, 1, 1, 1, 1}, {8, 0, 0, 0, 0}}, new int[][] {{1, 2, 3}, {4, 5, 6}, {7, 8, 9}, {10, 11, 12}});
+            Edge.due("each DAY a drop of each MATTER goes there and back", x.days(3), 24);
+            Edge.due("AHEAD as now", x.later(0, 3, 9), 1);
+            Edge.due(text, Check.registry(x, text) > 0, true);
+            int[] image = new int[x.image()];
+            for (int k = 0; k < image.length; k++) {
+                image[k] = x.octet(k);
+            }
+            Edge.due("on", on(x, image), 1);
+            SpongeClerks y = Check.office(text);
+            y.image();
+            Edge.due("on the FLOOR", x.has(5), 0);
+            Edge.due("nothing goes over", x.days(1), 0);
+            y.days(1);
+            x.registry();
+            y.registry();
+            Edge.due("on the FLOOR", x.has(5), 0);
+            Edge.due("on again", on(x, image), 1);
+            Edge.due("on again", on(y, image), 1);
+            Twins.alike("as a new object: " + text, x, y, false);
+        }
+    }
+
     private static void refusedImage(String what, int[] image) {
         Twins.refusedWithTape(what, PromiseEdgeTest::busy, z -> on(z, image), 0, 5);
     }
@@ -1119,5 +1185,33 @@ public final class PromiseEdgeTest {
         for (int what = 0; what < 6; what++) {
             Edge.due("nothing is refused, status(" + what + ")", x.status(what), 0);
         }
+    }
+
+    private static void calls512() {
+        Edge.sentence("An object is used for at most 512 calls after it has been made;");
+        SpongeClerks x = new SpongeClerks();
+        for (int k = 1; k <= 511; k++) {
+            Edge.due("call " + k, x.undo(), false);
+        }
+        Edge.due("call 512", x.status(4), 511);
+        // Three calls for the registry, then 507 ACTS and has() at the last but one.
+        x = new SpongeClerks();
+        x.feed(0x73656174, 0x7320323b, 0x636c6572, 0x6b206120, 0x61742030);
+        x.feed(0x20726f6f, 0x6d20393b, 0x20202020, 0x20202020, 0x20202020);
+        Edge.due("call 3", x.registry(), 2);
+        for (int k = 4; k <= 510; k++) {
+            Edge.due("call " + k, x.change(0, 1), true);
+        }
+        Edge.due("call 511", x.has(9), 20);
+        Edge.due("call 512", x.seat(1), 0);
+        // A tape filled, cut and filled again.
+        x = new SpongeClerks();
+        int size = 0;
+        for (int k = 1; k <= 511; k++) {
+            boolean cut = size == 1600;
+            Edge.due("call " + k, cut ? x.end(0) ? 0 : -1 : x.feed(k, k, k, k, k), cut ? 0 : size + 20);
+            size = cut ? 0 : size + 20;
+        }
+        Edge.due("call 512", x.end(size), true);
     }
 }

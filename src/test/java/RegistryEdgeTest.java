@@ -36,7 +36,12 @@ public final class RegistryEdgeTest {
         openAtOnce();
         tooMany();
         firstAlongTheText();
+        behindJoints();
+        halves();
+        pairs();
         partsOfEach();
+        truth();
+        space();
         Check.finish("RegistryEdgeTest");
     }
 
@@ -414,6 +419,27 @@ public final class RegistryEdgeTest {
         Edge.fault(B + "told cc of m 1;", 3, B.length() + 5);
         Edge.fault(B + "told c of mm 1;", 3, B.length() + 10);
         Edge.fits(B + "told c of m 1;", 4);
+        // As many MATTERS and CLERKS as there can be: the last and the first name of each sort.
+        String all = "seats 9;matter m;matter n;matter o;matter p;";
+        for (int k = 0; k < 7; k++) {
+            all = all + "clerk " + (char) ('a' + k) + " at " + k + " room 9;";
+        }
+        Edge.fits(all + "told a of p 1;told g of m 1;", 14);
+        String[] sorts = {"m", "p", "a", "g", "x"};
+        for (int k = 0; k < sorts.length; k++) {
+            String asClerk = "told " + sorts[k] + " of m 1;";
+            String asMatter = "told a of " + sorts[k] + " 1;";
+            if (k == 2 || k == 3) {
+                Edge.fits(all + asClerk, 13);
+            } else {
+                Edge.fault(all + asClerk, 3, all.length() + 5);
+            }
+            if (k < 2) {
+                Edge.fits(all + asMatter, 13);
+            } else {
+                Edge.fault(all + asMatter, 3, all.length() + 10);
+            }
+        }
     }
 
     private static void namesAhead() {
@@ -468,6 +494,17 @@ public final class RegistryEdgeTest {
         Edge.fault(B + "shakes notall;", 1, B.length() + 7);
         Edge.fault(B + "leaks min(1,2)or;", 1, B.length() + 14);
         Edge.fits(B + "shakes not\n1<2\nor\n1<2;", 4);
+        // Whatever number or word it is: none stands for a sign.
+        for (int number = 0; number < 130; number++) {
+            Edge.fault("seats 2;matter m" + number, 1, 16);
+            Edge.fault(B + "leaks drops" + number + " 1;", 1, B.length() + 11);
+        }
+        for (char one = 'a'; one <= 'z'; one++) {
+            for (char two = 'a'; two <= 'z'; two++) {
+                Edge.fault("seats 2" + one + two, 1, 7);
+                Edge.fault(B + "leaks 1" + one + two + " 1;", 1, B.length() + 7);
+            }
+        }
     }
 
     /** Each text that is cut ahead of a word, a number or a sign ends too soon there, whatever blanks stand behind. */
@@ -602,6 +639,103 @@ public final class RegistryEdgeTest {
         Edge.fault("seats 9;matter a;clerk b at 8 room 1;told b of a 9;", 2, 49);
         Edge.fault("seats 9;matter a;clerk b at 8 room 1;told b of a 1;leaks (((((((1+;", 4, 63);
         Edge.fault("seats 9;matter a;clerk b at 8 room 1;told b of a 1;leaks ((((((+(1;", 1, 63);
+    }
+
+    /** What joins two parts hides no FAULT of the one behind it, nor its place. */
+    private static void behindJoints() {
+        Edge.sentence("FAULTS, the first along the text:");
+        String[] sums = {"", "1+", "1-", "1*", "1/", "1+2*", "1*2+"};
+        String six = "((((((1))))))";
+        for (String sum : sums) {
+            String leaks = B + "leaks " + sum;
+            Edge.fits(leaks + six + ";", 4);
+            Edge.fault(leaks + "(" + six + ");", 4, leaks.length() + 6);
+            Edge.fault(leaks + "12345;", 1, leaks.length() + 4);
+            Edge.fault(leaks + " foo;", 1, leaks.length() + 1);
+            Edge.fault(leaks + ";", 1, leaks.length());
+            SpongeClerks x = Check.office(B);
+            Edge.questionFault(x, "total " + sum + "(" + six + ")", 4, 12 + sum.length());
+            Edge.questionFault(x, "total " + sum + "12345", 1, 10 + sum.length());
+            Edge.questionFault(x, "total " + sum + " foo", 1, 7 + sum.length());
+            Edge.questionFault(x, "total " + sum, 1, 6 + sum.length());
+        }
+        String[] tests = {"", "all or ", "all and ", "1<", "1>", "1=", "all or all and ", "all and all or ", "all and 1<2*"};
+        for (String test : tests) {
+            boolean half = test.matches(".*[<>=*]");
+            String shakes = B + "shakes " + test;
+            String end = half ? ";" : "<2;";
+            Edge.fits(shakes + six + end, 4);
+            Edge.fault(shakes + "(" + six + ")" + end, 4, shakes.length() + 6);
+            Edge.fault(shakes + "12345" + end, 1, shakes.length() + 4);
+            Edge.fault(shakes + " foo" + end, 1, shakes.length() + 1);
+            Edge.fault(shakes + ";", 1, shakes.length());
+            SpongeClerks x = Check.office(B);
+            Edge.questionFault(x, "often " + test + "(" + six + ")<2", 4, 12 + test.length());
+            Edge.questionFault(x, "often " + test + "12345<2", 1, 10 + test.length());
+            Edge.questionFault(x, "often " + test + " foo<2", 1, 7 + test.length());
+            Edge.questionFault(x, "often " + test, 1, 6 + test.length());
+        }
+    }
+
+    private static void halves() {
+        Edge.sentence("FACT: not FACT; [ TEST ] ; all; SUM SIGN SUM, SIGN < or > or = .");
+        String[] tests = {"1", "full", "(1)", "full and all", "full or all", "not 1", "[1]", "1 all", "1+all", "1<2<3", "1<", "<1", "not", "[]",
+            "[all", "[all)", "all]", "1<2]", "all all", "not and all", "[all]1", "1<all", "[1<2]<3"};
+        int[] places = {1, 4, 3, 5, 5, 5, 2, 2, 2, 3, 2, 0, 3, 1, 4, 4, 3, 3, 4, 4, 5, 2, 5};
+        for (int k = 0; k < tests.length; k++) {
+            Edge.fault(B + "shakes " + tests[k] + ";", 1, B.length() + 7 + places[k]);
+            Edge.questionFault(Check.office(B), "often " + tests[k], 1, 6 + places[k]);
+        }
+    }
+
+    private static void pairs() {
+        Edge.sentence("( SUM ) ; min ( SUM , SUM ) ; max ( SUM , SUM ) ;");
+        String[] sums = {"min 1,2)", "min[1,2)", "min)1,2)", "max", "max(1)", "max(1 2)", "min(1,2,3)", "min(1,2", "min(1,)", "min(,1)", "min()", "()",
+            "(1", "(1]", "1)", "(1,2)", "1,2", "min(1<2,1)", "max 1", "min,", "maxx(1,2)"};
+        int[] places = {4, 3, 3, 3, 5, 6, 7, 7, 6, 4, 4, 1, 2, 2, 1, 2, 1, 5, 4, 3, 0};
+        for (int k = 0; k < sums.length; k++) {
+            Edge.fault(B + "leaks " + sums[k] + ";", 1, B.length() + 6 + places[k]);
+            Edge.questionFault(Check.office(B), "total " + sums[k], 1, 6 + places[k]);
+        }
+    }
+
+    private static void truth() {
+        Edge.sentence("TEST: BOTH { or BOTH }. BOTH: FACT { and FACT }.");
+        String[] facts = {"all", "not all", "1<2", "2<2", "3<2", "2>1", "2>2", "1>2", "2=2", "1=2", "not 1<2", "not 2>2", "not 2=2", "[not 1=2]"};
+        boolean[] hold = {true, false, true, false, false, true, false, false, true, false, false, true, false, true};
+        for (int a = 0; a < facts.length; a++) {
+            SpongeClerks x = Check.office("seats 2;clerk c at 0 room 9;");
+            Edge.answer(x, "often " + facts[a], hold[a] ? 1 : 0);
+            Edge.answer(x, "often not " + facts[a], hold[a] ? 0 : 1);
+            for (int b = 0; b < facts.length; b++) {
+                Edge.answer(x, "often " + facts[a] + " and " + facts[b], hold[a] && hold[b] ? 1 : 0);
+                Edge.answer(x, "often " + facts[a] + " or " + facts[b], hold[a] || hold[b] ? 1 : 0);
+            }
+        }
+        for (int bits = 0; bits < 8; bits++) {
+            boolean a = (bits & 1) != 0;
+            boolean b = (bits & 2) != 0;
+            boolean c = (bits & 4) != 0;
+            String[] f = {a ? "1<2" : "2<1", b ? "1=1" : "1=2", c ? "2>1" : "1>2"};
+            SpongeClerks x = Check.office("seats 2;clerk c at 0 room 9;");
+            Edge.answer(x, "often " + f[0] + " or " + f[1] + " and " + f[2], a || b && c ? 1 : 0);
+            Edge.answer(x, "often " + f[0] + " and " + f[1] + " or " + f[2], a && b || c ? 1 : 0);
+            Edge.answer(x, "often [" + f[0] + " or " + f[1] + "] and " + f[2], (a || b) && c ? 1 : 0);
+            Edge.answer(x, "often " + f[0] + " and [" + f[1] + " or " + f[2] + "]", a && (b || c) ? 1 : 0);
+            Edge.answer(x, "often not " + f[0] + " and " + f[1] + " or " + f[2], !a && b || c ? 1 : 0);
+            Edge.answer(x, "often not [" + f[0] + " and " + f[1] + " or " + f[2] + "]", a && b || c ? 0 : 1);
+            Edge.due("in shakes", shaken("hand 1;shakes " + f[0] + " or " + f[1] + " and " + f[2] + ";", 42), a || b && c ? 1 : 0);
+        }
+    }
+
+    private static void space() {
+        Edge.sentence("how many more the one next to him can hold;");
+        for (int full = 0; full <= 9; full++) {
+            SpongeClerks x = Check.office("seats 2;matter m;matter w;clerk a at 0 room 99;clerk b at 1 room 9;told a of m 99;told b of w "
+                    + full + ";leaks space/3;");
+            Edge.due("bo has " + full, x.leak(0, 1, 0), (9 - full) / 3);
+            Edge.due("abe can hold none", x.leak(1, 0, 1), 0);
+        }
     }
 
     private static void partsOfEach() {

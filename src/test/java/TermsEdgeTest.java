@@ -16,6 +16,11 @@ public final class TermsEdgeTest {
         atFirst();
         goOver();
         bySeats();
+        roundAndRound();
+        stillUntilAnAct();
+        stillUntilItsDay();
+        stillAhead();
+        dayByDay();
         lastDay();
         floor();
         squeezedAndRinsed();
@@ -38,6 +43,7 @@ public final class TermsEdgeTest {
         power();
         seenAndSources();
         telling();
+        tellingOfSeven();
         questions();
         mind();
         dropsAndOff();
@@ -143,6 +149,188 @@ public final class TermsEdgeTest {
         x = Check.office("seats 3;matter m;clerk b at 1 room 9;told b of m 1;leaks 1;");
         Edge.due("none is next", x.days(1), 0);
         Edge.due("it stays", x.drops(0, 0), 1);
+    }
+
+    /** Abe gives bo a drop, who gives it back: each DAY is like the one ahead of it, and two drops go over. */
+    private static void roundAndRound() {
+        Edge.sentence("so many drops go over as the SUM of leaks tells, by what is so then,");
+        SpongeClerks x = Check.office(TWO + "told a of m 1;leaks 1;");
+        for (int n = 1; n <= 5; n++) {
+            Edge.due(n + " DAYS", x.days(n), 2 * n);
+        }
+        for (int k = 0; k < 15; k++) {
+            Edge.due("kept(" + k + ", 0)", x.kept(k, 0), k);
+            Edge.due("kept(" + k + ", 1)", x.kept(k, 1), 2);
+        }
+        Edge.due("by the seed", x.chance(3), 0);
+        Edge.due("kept(17, 1)", x.kept(17, 1), 2);
+        Edge.due("later", x.later(0, 0, 9), 1);
+        x.tell(1, 0, 3);
+        Edge.due("told 3 more: one comes, one goes", x.days(2), 4);
+        x.squeeze(1);
+        x.rinse(0);
+        Edge.due("all dry", x.days(2), 0);
+        for (int k = 0; k < 3; k++) {
+            x.undo();
+        }
+        Edge.due("as before it was squeezed", x.days(3), 6);
+        x.undo();
+        x.undo();
+        Edge.due("as before he was told", x.drops(1, 0) + x.drops(0, 0), 4);
+        x.undo();
+        Edge.due("as before he was told", x.drops(1, 0), 0);
+        Edge.due("two drops a DAY", x.days(4), 8);
+        Edge.due("KEPT", x.kept(x.has(7) - 1, 1), 2);
+    }
+
+    /** Three of abe's drops do not leak, four do: what an ACT brings counts from the next DAY on. */
+    private static void stillUntilAnAct() {
+        String text = "seats 3;matter m;matter w;clerk a at 0 room 9;clerk b at 1 room 9;told a of m 3;";
+        SpongeClerks x = Check.office(text);
+        Edge.due("nothing goes over", x.days(3), 0);
+        x.tell(0, 0, 1);
+        Edge.due("told one more", x.days(1), 1);
+        Edge.due("bo", x.drops(1, 0), 1);
+        Edge.due("nothing again", x.days(2), 0);
+        x.tell(1, 1, 20);
+        Edge.due("of w, bo is full: two go to abe", x.days(1), 2);
+        x = Check.office("seats 3;matter m;matter w;clerk a at 0 room 9;clerk b at 2 room 9;told a of m 8;");
+        Edge.due("none is next", x.days(2), 0);
+        x.change(1, 2);
+        Edge.due("bo is next", x.days(1), 2);
+        x = Check.office(text);
+        Edge.put(x, 0, new int[][] {{0, 3, 0}, {1, 0, 0}}, new int[][] {{1, 0, 0}, {0, 0, 0}});
+        x.days(2);
+        x.mop(0);
+        Edge.due("mopped up one", x.days(1), 1);
+        x = Check.office(text);
+        x.days(2);
+        Edge.put(x, 5, new int[][] {{0, 8, 0}, {1, 0, 0}}, new int[][] {{0, 0, 0}, {0, 0, 0}});
+        Edge.due("an image with more", x.days(1), 2);
+        x = Check.office(text);
+        x.days(2);
+        Check.registry(x, text + "told a of m 5;");
+        Edge.due("a registry with more", x.days(1), 2);
+        // Bo, full of w, holds abe's drops back until he is rinsed.
+        x = Check.office("seats 2;matter m;matter w;clerk a at 0 room 9;clerk b at 1 room 5;told a of m 8;told b of w 5;leaks (1-seat)*drops/4;");
+        Edge.due("bo is full", x.days(2), 0);
+        x.rinse(1);
+        Edge.due("bo is dry", x.days(1), 2);
+        x.undo();
+        x.undo();
+        Edge.due("bo is full again", x.days(1), 0);
+        x.squeeze(1);
+        Edge.due("bo is squeezed", x.days(1), 2);
+        // Hands bring bo the fourth drop, which then leaks back.
+        x = Check.office("seats 2;matter m;clerk a at 0 room 9;clerk b at 1 room 9;told a of m 3;told b of m 3;hand 1;");
+        Edge.due("still", x.days(2), 0);
+        x.seed(42);
+        Edge.due("hands", x.chance(1), 1);
+        Edge.due("one by hand, one back", x.kept(2, 1), 2);
+        Edge.due("abe", x.drops(0, 0), 3);
+    }
+
+    /** Where leaks asks for the DAY, a DAY on which nothing goes over says nothing of the next one. */
+    private static void stillUntilItsDay() {
+        String[] sums = {"day*(1-seat)", "(1-seat)*day", "(0+day)*(1-seat)", "max(day,0)*(1-seat)", "min(9,(1-seat)*day)"};
+        for (String sum : sums) {
+            SpongeClerks x = Check.office(TWO + "told a of m 20;leaks " + sum + ";");
+            Edge.due("behind one DAY, " + sum, x.later(1, 0, 1), 0);
+            Edge.due("behind four DAYS, " + sum, x.later(1, 0, 4), 6);
+            Edge.due("hears, " + sum, x.hears(1, 0), 2);
+            for (int day = 0; day < 5; day++) {
+                Edge.due("on DAY " + day + ", " + sum, x.days(1), day);
+            }
+        }
+        SpongeClerks x = Check.office(TWO + "told a of m 9;leaks day/50*(1-seat);");
+        Edge.due("up to DAY 49", x.days(50), 0);
+        Edge.due("on DAY 50", x.days(1), 1);
+        x = Check.office(TWO + "told a of m 9;leaks (1-day/2)*(1-seat);");
+        Edge.due("on DAYS 0, 1 alone", x.days(9), 2);
+        // The leaks of a registry ahead do not count.
+        Check.registry(x, TWO + "told a of m 9;leaks (1-seat)*0;");
+        Edge.due("no more", x.days(9), 0);
+        Check.registry(x, TWO + "told a of m 9;leaks (1-seat)*(day-day/2*2);");
+        Edge.due("on each other DAY", x.days(9), 4);
+    }
+
+    /** What is tried AHEAD is tried from where drops are after the change, not from still DAYS. */
+    private static void stillAhead() {
+        SpongeClerks x = Check.office("seats 2;matter m;clerk a at 0 room 9;clerk b at 1 room 9;told a of m 3;");
+        x.days(2);
+        Check.see(x, 1, 0, 0, 3, 1, 1, 0, 1);
+        Edge.due("told one, abe leaks one; or bo has it", x.sources(0, 1), 3);
+        Edge.due("told two, abe keeps four", x.sources(0, 2), 0);
+        x = Check.office("seats 3;matter m;clerk a at 0 room 9;clerk b at 2 room 9;told a of m 1;told b of m 1;leaks drops;");
+        Edge.due("none is next", x.days(2), 0);
+        Edge.due("side by side abe has both", x.discreet(0, 1, 2), 1);
+        Edge.due("less", x.discreet(0, 1, 0), 0);
+        Edge.due("more", x.discreet(0, 1, 1), 1);
+        Edge.due("as they sit", x.knows(0, 1), 3);
+        // Where nothing leaks none need be squeezed, and none can help abe, who has it.
+        x = Check.office(THREE + "told a of m 1;told b of m 1;leaks 0;");
+        x.days(2);
+        Edge.due("nothing leaks", x.pressed(2, 0, 30), 0);
+        Edge.due("abe has it", x.pressed(0, 0, 30), -1);
+    }
+
+    /** A DAY hangs on what is so alone: gone through one by one, each by a new object and an image, DAYS are as at once. */
+    private static void dayByDay() {
+        int[][] seats = {{8, 0, 3, 5, 2, 7, 4}, {6, 0, 3, 5, 2, 1, 4}};
+        String[] leaks = {"drops/4", "drops/2", "drops-1", "1+matter", "space/5", "full/8", "(9-seat)/2", "day-matter", "drops*(day-day/2*2)"};
+        for (int[] row : seats) {
+            for (String sum : leaks) {
+                dayByDay(crowd(row) + "leaks " + sum + ";");
+            }
+        }
+    }
+
+    /** Seven CLERKS and four MATTERS, those on every other seat with many drops of each. */
+    private static String crowd(int[] seats) {
+        StringBuilder text = new StringBuilder("seats 9;matter m;matter n;matter o;matter p;");
+        for (int k = 0; k < 7; k++) {
+            char name = (char) ('a' + k);
+            text.append("clerk ").append(name).append(" at ").append(seats[k]).append(" room ").append(90 + k).append(';');
+            for (int m = 0; m < 4; m++) {
+                int much = seats[k] % 2 == 0 ? 20 - m : m;
+                text.append("told ").append(name).append(" of ").append((char) ('m' + m)).append(' ').append(much).append(';');
+            }
+        }
+        return text.toString();
+    }
+
+    private static void dayByDay(String office) {
+        SpongeClerks x = Check.office(office);
+        SpongeClerks y = Check.office(office);
+        for (int n = 1; n <= 6; n++) {
+            int[] image = image(y);
+            y = Check.office(office);
+            Edge.due("on, " + office, Check.on(y, image), true);
+            int[] behind = image(y);
+            Edge.due("the image of an image", behind[behind.length - 1], image[image.length - 1]);
+            Edge.due("DAY " + n + ", " + office, x.days(1), y.days(1));
+        }
+        alikeRooms("one by one, " + office, x, y);
+        SpongeClerks z = Check.office(office);
+        z.days(6);
+        alikeRooms("at once, " + office, z, y);
+    }
+
+    private static int[] image(SpongeClerks x) {
+        int[] bytes = new int[x.image()];
+        for (int k = 0; k < bytes.length; k++) {
+            bytes[k] = x.octet(k);
+        }
+        return bytes;
+    }
+
+    private static void alikeRooms(String what, SpongeClerks x, SpongeClerks y) {
+        int[] one = image(x);
+        int[] other = image(y);
+        Edge.due(what + ": bytes", one.length, other.length);
+        for (int k = 0; k < one.length; k++) {
+            Edge.due(what + ": octet(" + k + ")", one[k], other[k]);
+        }
     }
 
     private static void lastDay() {
@@ -518,6 +706,13 @@ public final class TermsEdgeTest {
         Edge.due("nine seats: 0 and 7 first", x.discreet(0, 1, 1), 7);
         x.squeeze(0);
         Edge.due("none KNOWS it: none is better", x.discreet(0, 1, 0), -1);
+        // Whoever it is that sits on the seat more, and whether the seat less or more is empty.
+        x = Check.office("seats 9;matter m;clerk a at 8 room 9;clerk b at 7 room 9;told b of m 4;" + leaks);
+        Edge.due("the second CLERK sits on 7: 0 and 7 first", x.discreet(0, 1, 0), 0);
+        Edge.due("the second CLERK sits on 7: 0 and 7 first", x.discreet(0, 1, 1), 7);
+        x = Check.office("seats 9;matter m;clerk a at 1 room 9;clerk b at 0 room 9;told b of m 4;" + leaks);
+        Edge.due("the second CLERK sits on 0: 0 and 3 first", x.discreet(0, 1, 0), 0);
+        Edge.due("the second CLERK sits on 0: 0 and 3 first", x.discreet(0, 1, 1), 3);
         // With a full bo on seat 1 nothing comes to him, with cy there one more KNOWS.
         x = Check.office("seats 3;matter m;matter w;clerk a at 0 room 9;clerk b at 1 room 3;clerk c at 2 room 9;told a of m 4;told b of w 3;"
                 + "leaks (1-matter)*min(1,drops-1);");
@@ -695,6 +890,81 @@ public final class TermsEdgeTest {
         // By drops of that MATTER alone: those of w, which tell them apart, are not asked for.
         x = Check.office("seats 3;matter m;matter w;clerk a at 0 room 3;clerk b at 2 room 3;told a of m 3;told b of m 3;");
         Edge.due("both are full: alike", x.tells(1, 2, 2), 2);
+    }
+
+    /** Seven CLERKS on such seats, from the told DAY on leaking so many drops to each side. */
+    private static String seven(int[] seats, int day, String leaks) {
+        StringBuilder text = new StringBuilder("seats 9;matter m;");
+        for (int k = 0; k < 7; k++) {
+            text.append("clerk ").append((char) ('a' + k)).append(" at ").append(seats[k]).append(" room 99;");
+        }
+        return text + "leaks min(1,max(0,day-" + day + "+1))*(" + leaks + ");";
+    }
+
+    private static void tellingOfSeven() {
+        String[] leaks = {"drops/4", "drops/2", "drops*2/3", "drops*4/5", "drops-1"};
+        int[] days = {0, 28, 29, 30};
+        int[][] seats = {{1, 7, 2, 6, 3, 5, 4}, {4, 3, 5, 2, 6, 1, 7}, {6, 5, 4, 3, 2, 1, 0}, {2, 3, 4, 5, 6, 7, 8}};
+        int clerks = 0;
+        for (int[] row : seats) {
+            for (String sum : leaks) {
+                for (int from : days) {
+                    clerks |= 1 << tellingOf(seven(row, from, sum), from);
+                }
+            }
+        }
+        Edge.due("the first and the last CLERK were among them", clerks & 65, 65);
+    }
+
+    private static int tellingOf(String text, int from) {
+        int[] best = bestOf(dropsBySource(text));
+        SpongeClerks x = Check.office(text);
+        for (int what = 0; what < 3; what++) {
+            Edge.due("what " + what + " of " + text, x.tells(0, 99, what), best[what]);
+        }
+        Edge.due("six are left until it leaks: " + text, best[2] == 6, from == 30);
+        Edge.due("the DAY is none ahead of the first leak: " + text, best[0] > from || from == 30, true);
+        // Nothing is told: all seven are left, by the first DAY and CLERK.
+        Edge.due("0 drops: left", x.tells(0, 0, 2), 7);
+        Edge.due("0 drops: DAY", x.tells(0, 0, 0), 0);
+        Edge.due("0 drops: CLERK", x.tells(0, 0, 1), 0);
+        return best[1];
+    }
+
+    /** What each of seven has on each DAY, if one of them is told: looked at by tell() and later(). */
+    private static int[][][] dropsBySource(String text) {
+        int[][][] drops = new int[7][31][7];
+        for (int source = 0; source < 7; source++) {
+            SpongeClerks x = Check.office(text);
+            x.tell(source, 0, 99);
+            for (int n = 0; n <= 30; n++) {
+                for (int c = 0; c < 7; c++) {
+                    drops[source][n][c] = x.later(c, 0, n);
+                }
+            }
+        }
+        return drops;
+    }
+
+    /** DAY, CLERK, and how many SOURCES are left at the most. */
+    private static int[] bestOf(int[][][] drops) {
+        int[] best = {-1, -1, 8};
+        for (int n = 0; n <= 30; n++) {
+            for (int c = 0; c < 7; c++) {
+                int left = 0;
+                for (int one = 0; one < 7; one++) {
+                    int alike = 0;
+                    for (int other = 0; other < 7; other++) {
+                        alike += drops[one][n][c] == drops[other][n][c] ? 1 : 0;
+                    }
+                    left = Math.max(left, alike);
+                }
+                if (left < best[2]) {
+                    best = new int[] {n, c, left};
+                }
+            }
+        }
+        return best;
     }
 
     // ---- IV
